@@ -302,8 +302,14 @@ public final class BentGardens {
         for (int what = 0; what < COUNTS; what++) {
             hash = mixed(hash, count(what));
         }
-        hash = mixedCells(mixedRows(hash));
-        hash = mixedWays(mixedTriples(hash));
+        hash = mixedTriples(mixedCells(mixedRows(hash)));
+        hash = mixed(hash, ways());
+        // The blocks at (0, 0), (1, 1) and (2, 0), as the document lists them.
+        for (int x = 0; x < 3; x++) {
+            for (int turn = 0; turn < TURNS; turn++) {
+                hash = mixed(hash, waysWith(x, x % 2, turn));
+            }
+        }
         hash = mixed(mixed(hash, forced(0)), forced(1));
         hash = mixed(mixed(hash, lonely()), shareBits(pavedShare()));
         return mixedBuffer(mixedSlots(hash));
@@ -341,21 +347,6 @@ public final class BentGardens {
             for (int what = 0; what < PROPERTIES; what++) {
                 hash = mixed(hash, triple(number, what));
             }
-        }
-        return hash;
-    }
-
-    private long mixedWays(long before) {
-        long hash = mixed(before, ways());
-        hash = mixedWaysWith(hash, 0, 0);
-        hash = mixedWaysWith(hash, 1, 1);
-        return mixedWaysWith(hash, 2, 0);
-    }
-
-    private long mixedWaysWith(long before, int x, int y) {
-        long hash = before;
-        for (int turn = 0; turn < TURNS; turn++) {
-            hash = mixed(hash, waysWith(x, y, turn));
         }
         return hash;
     }
@@ -451,7 +442,7 @@ public final class BentGardens {
         if (x < 0 || x > last || y < 0 || y > last || turn < 0 || turn >= SHAPES.length) {
             return 0L;
         }
-        return SHAPES[turn] << placeOf(x, y);
+        return SHAPES[turn] << (MOST_SIDE * y + x);
     }
 
     /** A cell as the answers tell it. */
@@ -769,13 +760,12 @@ public final class BentGardens {
             Arrays.fill(rest[end], 0);
             rest[end][0] = 1;
             for (int place = end - 1; place >= 0; place--) {
-                countPlace(free, place, rest[place], rest[place + 1]);
+                findTakes(free, place);
+                countPlace(holds(free, place), rest[place], rest[place + 1]);
             }
         }
 
-        private void countPlace(long free, int place, int[] here, int[] next) {
-            boolean isFree = holds(free, place);
-            findTakes(free, place);
+        private void countPlace(boolean isFree, int[] here, int[] next) {
             for (int window = 0; window < WINDOWS; window++) {
                 if (isFree && (window & 1) == 0) {
                     here[window] = countTurns(window, next);
@@ -797,7 +787,7 @@ public final class BentGardens {
 
         private void findTakes(long free, int place) {
             for (int turn = 0; turn < TURNS; turn++) {
-                long cells = cellsFrom(place, turn);
+                long cells = cellsOf(blockColumn(place, turn), place / MOST_SIDE, turn);
                 boolean isIn = (cells & ~free) == 0;
                 takes[turn] = isIn ? (int) (cells >>> place) : 0;
             }
@@ -806,10 +796,6 @@ public final class BentGardens {
         /** The column of the block of the triple that has its first cell at a place. */
         private static int blockColumn(int place, int turn) {
             return turn == 0 ? place % MOST_SIDE - 1 : place % MOST_SIDE;
-        }
-
-        private static long cellsFrom(int place, int turn) {
-            return cellsOf(blockColumn(place, turn), place / MOST_SIDE, turn);
         }
 
         private boolean isOpen(int turn, int window) {

@@ -13,6 +13,7 @@ public final class SnapshotsTest {
         test.sixStates();
         test.eachUndoableCall();
         test.callsThatSaveNothing();
+        test.callsThatThrowSaveNothing();
         test.check.end();
     }
 
@@ -158,5 +159,30 @@ public final class SnapshotsTest {
         gardens.pavedShare();
         gardens.digest();
         check.due("no state is saved", 0, gardens.count(11));
+    }
+
+    private void callsThatThrowSaveNothing() {
+        saveless("garden", gardens -> gardens.garden(1, 4));
+        saveless("pond off", gardens -> gardens.pond(4, 0));
+        saveless("wall off", gardens -> gardens.wall(0, 4));
+        saveless("wall on the pond", gardens -> gardens.wall(0, 0));
+        saveless("lay", gardens -> gardens.lay(0, 0, 4));
+        saveless("lift off", gardens -> gardens.lift(-1, 0));
+        saveless("lift of nothing", gardens -> gardens.lift(1, 1));
+        saveless("flip off", gardens -> gardens.flip(3, 0, true));
+        saveless("flip of nothing", gardens -> gardens.flip(0, 0, true));
+        saveless("load", gardens -> gardens.load());
+        saveless("goBack to no slot", gardens -> gardens.goBack(2));
+        saveless("goBack to an empty slot", gardens -> gardens.goBack(1));
+    }
+
+    private void saveless(String call, Consumer<BentGardens> body) {
+        BentGardens gardens = new BentGardens();
+        String outcome = Check.outcome(() -> {
+            body.accept(gardens);
+            return 0;
+        });
+        check.due(call + " throws", 1, outcome.endsWith("Exception") ? 1 : 0);
+        check.due(call + " saves no state", 0, gardens.count(11));
     }
 }
