@@ -121,7 +121,7 @@ public final class BentGardens {
             throw new IllegalStateException("the garden cannot be paved by squares");
         }
         saveState();
-        now.paveSquare(0, 0, now.wide, now.pondPlace);
+        now.paveSquares();
         return now.tripleCount;
     }
 
@@ -697,23 +697,27 @@ public final class BentGardens {
             return isHalvableSide && wide == high && walls == 0 && tripleCount == 0;
         }
 
-        /** The size halves from 8 at most, so three squares at most stand open at once. */
-        void paveSquare(int x, int y, int size, int squarePond) {
-            int half = size / 2;
-            if (half < 1) {
+        void paveSquares() {
+            paveSquare(this, 0, 0, wide, pondPlace);
+        }
+
+        /** The size halves from 8 at most, so four squares at most stand open at once. */
+        private static void paveSquare(Garden garden, int x, int y, int size, int squarePond) {
+            if (size < LEAST_SIDE || size > MOST_SIDE) {
                 return;
             }
+            int half = size / 2;
             boolean isRight = squarePond % MOST_SIDE >= x + half;
             boolean isLow = squarePond / MOST_SIDE >= y + half;
             int middleX = x + half - 1;
             int middleY = y + half - 1;
-            putTriple(middleX, middleY, quarterTurn(isRight, isLow));
+            garden.putTriple(middleX, middleY, quarterTurn(isRight, isLow));
             for (int quarter = 0; quarter < 4; quarter++) {
                 int right = quarter % 2;
                 int low = quarter / 2;
                 boolean hasPond = isRight == (right == 1) && isLow == (low == 1);
                 int quarterPond = hasPond ? squarePond : placeOf(middleX + right, middleY + low);
-                paveSquare(x + half * right, y + half * low, half, quarterPond);
+                paveSquare(garden, x + half * right, y + half * low, half, quarterPond);
             }
         }
 
@@ -732,22 +736,26 @@ public final class BentGardens {
      * window of nine bits, the bit 0 for the place itself.
      */
     private static final class Paver {
-        private static final int WINDOWS = 512;
+        static final int WINDOWS = 512;
         private static final int LAST_WINDOW = WINDOWS - 1;
 
         /** For each place and window, the ways to pave what is free from the place on. */
         private final int[][] rest = new int[PLACES + 1][WINDOWS];
         /** For each turn, the places that its triple takes, from the place of its first cell on. */
         private final int[] takes = new int[TURNS];
-        private int[] reached = new int[WINDOWS];
-        private int[] reachedNext = new int[WINDOWS];
+        private Reached here = new Reached();
+        private Reached next = new Reached();
 
         int waysToPave(long free) {
             if (Long.bitCount(free) % 3 != 0) {
                 return 0;
             }
-            countRest(free);
-            return rest[0][0];
+            begin();
+            int end = endOf(free);
+            for (int place = Long.numberOfTrailingZeros(free); place < end; place++) {
+                goOn(free, place);
+            }
+            return here.waysTo(0);
         }
 
         /** The place after the last free cell: there the ways end. */
@@ -755,34 +763,38 @@ public final class BentGardens {
             return PLACES - Long.numberOfLeadingZeros(free);
         }
 
-        private void countRest(long free) {
-            int end = endOf(free);
-            Arrays.fill(rest[end], 0);
-            rest[end][0] = 1;
-            for (int place = end - 1; place >= 0; place--) {
-                findTakes(free, place);
-                countPlace(holds(free, place), rest[place], rest[place + 1]);
-            }
+        // ---- from the first place on: the ways that reach a window
+
+        private void begin() {
+            here.clear();
+            here.add(0, 1);
         }
 
-        private void countPlace(boolean isFree, int[] here, int[] next) {
-            for (int window = 0; window < WINDOWS; window++) {
+        private void goOn(long free, int place) {
+            boolean isFree = holds(free, place);
+            if (isFree) {
+                findTakes(free, place);
+            }
+            next.clear();
+            for (int index = 0; index < here.size; index++) {
+                int window = here.windowAt(index);
                 if (isFree && (window & 1) == 0) {
-                    here[window] = countTurns(window, next);
+                    goOnByTurns(window);
                 } else {
-                    here[window] = next[window >> 1];
+                    next.add(window >> 1, here.waysTo(window));
                 }
             }
+            Reached before = here;
+            here = next;
+            next = before;
         }
 
-        private int countTurns(int window, int[] next) {
-            int ways = 0;
+        private void goOnByTurns(int window) {
             for (int turn = 0; turn < TURNS; turn++) {
                 if (isOpen(turn, window)) {
-                    ways += next[windowAfter(turn, window)];
+                    next.add(windowAfter(turn, window), here.waysTo(window));
                 }
             }
-            return ways;
         }
 
         private void findTakes(long free, int place) {
@@ -806,9 +818,42 @@ public final class BentGardens {
             return (takes[turn] | window) >> 1 & LAST_WINDOW;
         }
 
-        /** Lays the first way into a garden for which waysToPave() has just found ways. */
+        // ---- from the last place back: the ways to pave what is free from a window on
+
+        private void countRest(long free) {
+            int end = endOf(free);
+            Arrays.fill(rest[end], 0);
+            rest[end][0] = 1;
+            for (int place = end - 1; place >= 0; place--) {
+                findTakes(free, place);
+                countPlace(holds(free, place), rest[place], rest[place + 1]);
+            }
+        }
+
+        private void countPlace(boolean isFree, int[] restHere, int[] restNext) {
+            for (int window = 0; window < WINDOWS; window++) {
+                if (isFree && (window & 1) == 0) {
+                    restHere[window] = countTurns(window, restNext);
+                } else {
+                    restHere[window] = restNext[window >> 1];
+                }
+            }
+        }
+
+        private int countTurns(int window, int[] restNext) {
+            int ways = 0;
+            for (int turn = 0; turn < TURNS; turn++) {
+                if (isOpen(turn, window)) {
+                    ways += restNext[windowAfter(turn, window)];
+                }
+            }
+            return ways;
+        }
+
+        /** Lays the first way into a garden, which has one. */
         void paveFirstWay(Garden garden) {
             long free = garden.freeCells();
+            countRest(free);
             int end = endOf(free);
             int window = 0;
             for (int place = 0; place < end; place++) {
@@ -838,8 +883,7 @@ public final class BentGardens {
          */
         int bestGap(long cells) {
             countRest(cells);
-            Arrays.fill(reached, 0);
-            reached[0] = 1;
+            begin();
             int best = NONE;
             int most = 0;
             int end = endOf(cells);
@@ -849,41 +893,53 @@ public final class BentGardens {
                     most = ways;
                     best = place;
                 }
-                reachNext(cells, place);
+                goOn(cells, place);
             }
             return best;
         }
 
         private int waysAround(int place) {
             int ways = 0;
-            for (int window = 0; window < WINDOWS; window += 2) {
-                ways += reached[window] * rest[place + 1][window >> 1];
+            for (int index = 0; index < here.size; index++) {
+                int window = here.windowAt(index);
+                if ((window & 1) == 0) {
+                    ways += here.waysTo(window) * rest[place + 1][window >> 1];
+                }
             }
             return ways;
         }
+    }
 
-        private void reachNext(long cells, int place) {
-            boolean isFree = holds(cells, place);
-            findTakes(cells, place);
-            Arrays.fill(reachedNext, 0);
-            for (int window = 0; window < WINDOWS; window++) {
-                if (isFree && (window & 1) == 0) {
-                    reachByTurns(window);
-                } else {
-                    reachedNext[window >> 1] += reached[window];
-                }
+    /** The windows that are reached at a place, with the ways to each; all others have none. */
+    private static final class Reached {
+        int size = 0;
+        private final int[] windows = new int[Paver.WINDOWS];
+        private final int[] ways = new int[Paver.WINDOWS];
+
+        void clear() {
+            for (int index = 0; index < size; index++) {
+                ways[windowAt(index)] = 0;
             }
-            int[] before = reached;
-            reached = reachedNext;
-            reachedNext = before;
+            size = 0;
         }
 
-        private void reachByTurns(int window) {
-            for (int turn = 0; reached[window] != 0 && turn < TURNS; turn++) {
-                if (isOpen(turn, window)) {
-                    reachedNext[windowAfter(turn, window)] += reached[window];
-                }
+        void add(int window, int more) {
+            if (window < 0 || window >= ways.length) {
+                return;
             }
+            if (ways[window] == 0 && size < windows.length) {
+                windows[size] = window;
+                size++;
+            }
+            ways[window] += more;
+        }
+
+        int windowAt(int index) {
+            return index >= 0 && index < windows.length ? windows[index] : 0;
+        }
+
+        int waysTo(int window) {
+            return window >= 0 && window < ways.length ? ways[window] : 0;
         }
     }
 

@@ -3,6 +3,12 @@ import java.util.function.LongSupplier;
 /** Compares answers with what is due and counts those that differ. */
 final class Check {
     private int wrong = 0;
+    private String caseName = "";
+
+    /** What is compared from now on belongs to this case. */
+    void begin(String name) {
+        caseName = name + ": ";
+    }
 
     void due(String call, long want, long got) {
         if (got != want) {
@@ -22,11 +28,11 @@ final class Check {
         }
     }
 
-    /** The call throws just this kind of exception, and the object's digest stays as it was. */
+    /** The call throws just this kind of exception, and all that can be looked at stays as it was. */
     void refuses(String call, Class<?> kind, BentGardens gardens, LongSupplier body) {
-        long before = gardens.digest();
+        String before = Told.all(gardens);
         dueText(call, kind.getSimpleName(), outcome(body));
-        due(call + " leaves the digest", before, gardens.digest());
+        dueText(call + " changes nothing", before, Told.all(gardens));
     }
 
     /** The answer as a text, or the simple name of the exception that is thrown. */
@@ -40,7 +46,7 @@ final class Check {
 
     private void miss(String call, String want, String got) {
         wrong++;
-        System.out.println(call + " answered " + got + ", due is " + want);
+        System.out.println(caseName + call + " answered " + got + ", due is " + want);
     }
 
     /** Ends the test: with exit code 1 if an answer was wrong. */

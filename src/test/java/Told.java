@@ -1,3 +1,5 @@
+import java.util.function.IntUnaryOperator;
+
 /** Reads a garden off an object, and makes one, in forms that are easy to write down in a test. */
 final class Told {
     private Told() {
@@ -14,6 +16,22 @@ final class Told {
         append(gardens, text);
         gardens.load();
         return gardens;
+    }
+
+    static BentGardens gardenOf(int wide, int high, int pondX, int pondY) {
+        BentGardens gardens = new BentGardens();
+        gardens.garden(wide, high);
+        gardens.pond(pondX, pondY);
+        return gardens;
+    }
+
+    /** A row several times, with a slash between each two. */
+    static String rows(int count, String row) {
+        StringBuilder text = new StringBuilder(row);
+        for (int y = 1; y < count; y++) {
+            text.append('/').append(row);
+        }
+        return text.toString();
     }
 
     /** The rows as a text: as for load(), with a letter for each triple, from a on. */
@@ -43,5 +61,23 @@ final class Told {
             }
         }
         return text.toString();
+    }
+
+    /** Some answers with blanks between them. */
+    static String answers(int many, IntUnaryOperator answer) {
+        StringBuilder text = new StringBuilder();
+        for (int index = 0; index < many; index++) {
+            text.append(index == 0 ? "" : " ").append(answer.applyAsInt(index));
+        }
+        return text.toString();
+    }
+
+    static String counts(BentGardens gardens) {
+        return answers(12, what -> gardens.count(what));
+    }
+
+    /** All that can be looked at. */
+    static String all(BentGardens gardens) {
+        return cells(gardens) + " " + triples(gardens) + " | " + counts(gardens) + " | " + gardens.digest();
     }
 }

@@ -1,218 +1,388 @@
 /** Promises 5 to 9: lay, lift, flip, fill, halve. */
-public final class TriplesTest {
-    private final Check check = new Check();
+public final class TriplesTest extends Cases {
+    private static final int[] WRONG_TURNS = {-1, 4, 5, Integer.MAX_VALUE, Integer.MIN_VALUE};
 
     public static void main(String[] args) {
-        TriplesTest test = new TriplesTest();
-        test.layEachTurn();
-        test.layRefused();
-        test.lift();
-        test.flipWide();
-        test.flipHigh();
-        test.flipRefused();
-        test.fill();
-        test.fillLeastTurns();
-        test.halve();
-        test.halveRefused();
-        test.check.end();
+        new TriplesTest().run();
     }
 
-    private void layEachTurn() {
-        String[] due = {"..../..a./.aa./...o", "..../.a../.aa./...o", "..../.aa./.a../...o", "..../.aa./..a./...o"};
-        for (int turn = 0; turn < 4; turn++) {
-            BentGardens gardens = new BentGardens();
-            gardens.pond(3, 3);
-            check.due("lay(1, 1, " + turn + ")", 0, gardens.lay(1, 1, turn));
-            check.dueText("lay(1, 1, " + turn + ")", due[turn], Told.cells(gardens));
-            check.due("lay saves a state", 2, gardens.count(11));
+    // ---- promise 5: lay
+
+    void promise5IsLaid() {
+        BentGardens gardens = new BentGardens();
+        check.due("lay(1, 2, 3)", 0, gardens.lay(1, 2, 3));
+        check.dueText("cells", "o.../..../.aa./..a.", Told.cells(gardens));
+        check.dueText("triples", "123", Told.triples(gardens));
+        check.due("nothing is refused", 0, gardens.count(10));
+    }
+
+    void promise5InEachCorner() {
+        BentGardens gardens = Told.gardenOf(Told.rows(3, "........") + "/...o..../" + Told.rows(4, "........"));
+        check.due("lay(0, 0, 2)", 0, gardens.lay(0, 0, 2));
+        check.due("lay(6, 0, 3)", 0, gardens.lay(6, 0, 3));
+        check.due("lay(6, 6, 0)", 0, gardens.lay(6, 6, 0));
+        check.due("lay(0, 6, 1)", 0, gardens.lay(0, 6, 1));
+        check.dueText("cells", "aa....bb/a......b/......../...o..../......../......../d......c/dd....cc",
+            Told.cells(gardens));
+    }
+
+    void promise5AnyNumbers() {
+        BentGardens gardens = new BentGardens();
+        int[] far = {Integer.MAX_VALUE, Integer.MIN_VALUE, Integer.MAX_VALUE - 1, 8, -2, 1 << 30, 64, -64};
+        for (int number : far) {
+            check.due("lay(" + number + ", 0, 0)", 1, gardens.lay(number, 0, 0));
+            check.due("lay(0, " + number + ", 0)", 1, gardens.lay(0, number, 0));
+            check.due("lay(" + number + ", " + number + ", 0)", 1, gardens.lay(number, number, 0));
         }
+        check.due("refused so far", 24, gardens.count(10));
+        check.due("triples", 0, gardens.count(5));
     }
 
-    private void layRefused() {
+    void promise5EachReason() {
         BentGardens gardens = Told.gardenOf("o#../..../..../....");
-        check.due("a block beyond the right", 1, gardens.lay(3, 0, 0));
-        check.due("a block beyond the foot", 1, gardens.lay(0, 3, 1));
-        check.due("a block beyond the left", 1, gardens.lay(-1, 1, 1));
-        check.due("a block far beyond", 1, gardens.lay(Integer.MAX_VALUE, 0, 1));
-        check.due("a block far beyond", 1, gardens.lay(0, Integer.MIN_VALUE, 1));
-        check.due("the pond before the wall", 2, gardens.lay(0, 0, 2));
+        check.due("beyond the garden", 1, gardens.lay(3, 0, 0));
+        check.due("the pond", 2, gardens.lay(0, 0, 2));
         check.due("a wall", 3, gardens.lay(0, 0, 0));
-        check.due("neither wall nor triple", 0, gardens.lay(1, 0, 0));
-        check.due("a wall before a paved cell", 3, gardens.lay(1, 0, 3));
+        check.due("laid", 0, gardens.lay(1, 0, 0));
         check.due("a paved cell", 4, gardens.lay(1, 1, 0));
-        check.due("what was refused", 9, gardens.count(10));
-        check.due("a refused lay saves a state too", 6, gardens.count(11));
+    }
+
+    void promise5RefusedIsCountedAndSaved() {
+        BentGardens gardens = new BentGardens();
+        check.due("lay(0, 0, 1)", 2, gardens.lay(0, 0, 1));
+        check.dueText("counts", "4 4 0 0 0 0 15 33 0 0 1 1", Told.counts(gardens));
+        check.due("undo", 0, gardens.undo());
+        check.dueText("counts before", "4 4 0 0 0 0 15 33 0 0 0 0", Told.counts(gardens));
+    }
+
+    void promise5LaidIsSaved() {
+        BentGardens gardens = new BentGardens();
+        gardens.lay(0, 0, 0);
+        check.due("saved states", 1, gardens.count(11));
         gardens.undo();
-        check.due("what was refused before", 8, gardens.count(10));
-        check.due("the pond before a paved cell", 2, gardens.lay(0, 0, 3));
-        int[] wrong = {-1, 4, Integer.MAX_VALUE, Integer.MIN_VALUE};
-        for (int turn : wrong) {
-            check.refuses("lay, turn " + turn, IllegalArgumentException.class, gardens, () -> gardens.lay(9, 9, turn));
+        check.dueText("cells before", "o.../..../..../....", Told.cells(gardens));
+    }
+
+    void promise5TurnOutOfRange() {
+        BentGardens gardens = new BentGardens();
+        for (int turn : WRONG_TURNS) {
+            check.refuses("lay(1, 1, " + turn + ")", NO_ARGUMENT, gardens, () -> gardens.lay(1, 1, turn));
         }
     }
 
-    private void lift() {
+    void promise5TurnOutOfRangeBeyondTheGarden() {
+        BentGardens gardens = new BentGardens();
+        for (int turn : WRONG_TURNS) {
+            check.refuses("lay(9, 9, " + turn + ")", NO_ARGUMENT, gardens, () -> gardens.lay(9, 9, turn));
+        }
+    }
+
+    // ---- promise 6: lift
+
+    private static BentGardens fourTriples() {
         BentGardens gardens = new BentGardens();
         gardens.lay(0, 0, 0);
         gardens.lay(2, 0, 1);
         gardens.lay(0, 2, 3);
         gardens.lay(2, 2, 2);
-        check.dueText("four triples", "oab./aabb/ccdd/.cd.", Told.cells(gardens));
+        return gardens;
+    }
+
+    void promise6ReturnsItsNumberBefore() {
+        BentGardens gardens = fourTriples();
+        check.dueText("before", "oab./aabb/ccdd/.cd.", Told.cells(gardens));
         check.due("lift(3, 1)", 1, gardens.lift(3, 1));
-        check.dueText("one lifted", "oa../aa../bbcc/.bc.", Told.cells(gardens));
-        check.dueText("numbers that are less by 1", "000 023 222", Told.triples(gardens));
-        check.due("lift saves a state", 5, gardens.count(11));
-        check.due("lift(2, 2), the last one", 2, gardens.lift(2, 2));
-        check.due("lift(1, 0), the first one", 0, gardens.lift(1, 0));
-        check.dueText("one is left", "o.../..../aa../.a..", Told.cells(gardens));
-        check.refuses("lift a free cell", IllegalStateException.class, gardens, () -> gardens.lift(1, 0));
-        check.refuses("lift the pond", IllegalStateException.class, gardens, () -> gardens.lift(0, 0));
-        gardens.wall(3, 3);
-        check.refuses("lift a wall", IllegalStateException.class, gardens, () -> gardens.lift(3, 3));
-        int[][] wrong = {{4, 0}, {0, 4}, {-1, 0}, {0, -1}, {Integer.MAX_VALUE, 0}, {0, Integer.MIN_VALUE}};
-        for (int[] cell : wrong) {
-            check.refuses("lift off", IndexOutOfBoundsException.class, gardens, () -> gardens.lift(cell[0], cell[1]));
+        check.due("lift(2, 2)", 2, gardens.lift(2, 2));
+        check.due("lift(1, 0)", 0, gardens.lift(1, 0));
+        check.due("lift(1, 3)", 0, gardens.lift(1, 3));
+        check.dueText("after", "o.../..../..../....", Told.cells(gardens));
+    }
+
+    void promise6ByEachOfItsCells() {
+        int[][] cells = {{2, 0}, {2, 1}, {3, 1}};
+        for (int[] cell : cells) {
+            BentGardens gardens = fourTriples();
+            check.due("lift(" + cell[0] + ", " + cell[1] + ")", 1, gardens.lift(cell[0], cell[1]));
+            check.dueText("after", "oa../aa../bbcc/.bc.", Told.cells(gardens));
         }
     }
 
-    private void flipWide() {
-        BentGardens gardens = Told.gardenOf("...../...../....o");
-        gardens.lay(2, 0, 0);
-        gardens.lay(0, 1, 1);
-        gardens.lay(1, 0, 2);
-        check.dueText("before a flip", ".cca./bcaa./bb..o", Told.cells(gardens));
-        check.due("blocks to flip", 1, gardens.count(8));
-        check.due("flip(1, 0, false)", 1, gardens.flip(1, 0, false));
-        check.dueText("after a flip", ".bcc./abbc./aa..o", Told.cells(gardens));
-        check.dueText("the first cell's triple comes first", "011 101 203", Told.triples(gardens));
-        check.due("flip it back", 2, gardens.flip(1, 0, false));
-        check.dueText("flipped back", "011 102 200", Told.triples(gardens));
-        check.due("flips so far", 2, gardens.count(9));
-        gardens.garden(2, 2);
-        check.due("flips are counted on", 2, gardens.count(9));
-    }
-
-    private void flipHigh() {
+    void promise6TheLastOfMany() {
         BentGardens gardens = new BentGardens();
-        gardens.pond(3, 3);
-        gardens.lay(0, 1, 0);
-        gardens.lay(2, 0, 1);
-        gardens.lay(0, 0, 2);
-        check.dueText("before a flip", "ccb./cabb/aa../...o", Told.cells(gardens));
-        check.due("blocks to flip", 1, gardens.count(8));
-        check.due("flip(0, 0, true)", 1, gardens.flip(0, 0, true));
-        check.dueText("after a flip", "bba./cbaa/cc../...o", Told.cells(gardens));
-        check.dueText("the first cell's triple comes first", "201 003 011", Told.triples(gardens));
-        check.due("flip it back", 2, gardens.flip(0, 0, true));
-        check.dueText("flipped back", "201 002 010", Told.triples(gardens));
-        check.due("flips so far", 2, gardens.count(9));
-        check.due("flip saves states", 6, gardens.count(11));
-        gardens.undo();
-        check.due("a flip less", 1, gardens.count(9));
+        gardens.garden(8, 8);
+        gardens.halve();
+        check.due("lift(7, 7)", 20, gardens.lift(7, 7));
+        check.due("triples", 20, gardens.count(5));
+        check.due("the first one", 0, gardens.lift(4, 4));
+        check.due("triples", 19, gardens.count(5));
     }
 
-    private void flipRefused() {
-        BentGardens gardens = Told.gardenOf("..../..../..../o...");
+    void promise6NoSuchCell() {
+        BentGardens gardens = Told.gardenOf(".../..o/.../.../...");
         gardens.lay(0, 0, 2);
-        gardens.lay(1, 0, 0);
-        check.dueText("two triples in a block", "aab./abb./..../o...", Told.cells(gardens));
-        check.refuses("flip a high block", IllegalStateException.class, gardens, () -> gardens.flip(0, 0, true));
-        check.refuses("flip of one triple", IllegalStateException.class, gardens, () -> gardens.flip(1, 0, false));
-        check.refuses("flip of none", IllegalStateException.class, gardens, () -> gardens.flip(1, 2, false));
-        BentGardens paved = new BentGardens();
-        paved.fill();
-        check.refuses("flip of four triples", IllegalStateException.class, paved, () -> paved.flip(1, 1, false));
-        int[][] wide = {{2, 0}, {0, 3}, {-1, 0}, {0, -1}, {Integer.MAX_VALUE, 0}, {0, Integer.MAX_VALUE}};
-        for (int[] cell : wide) {
-            check.refuses("wide flip off", IndexOutOfBoundsException.class, gardens,
-                () -> gardens.flip(cell[0], cell[1], false));
+        gardens.lay(1, 3, 0);
+        gardens.lay(0, 3, 1);
+        int[][] wrong = {{3, 0}, {0, 5}, {-1, 0}, {0, -1}, {3, 4}, {2, 5}, {8, 0}, {0, 8}, {Integer.MIN_VALUE, 0},
+            {Integer.MAX_VALUE, 0}, {0, Integer.MIN_VALUE}, {0, Integer.MAX_VALUE}};
+        for (int[] cell : wrong) {
+            check.refuses("lift(" + cell[0] + ", " + cell[1] + ")", NO_CELL, gardens,
+                () -> gardens.lift(cell[0], cell[1]));
         }
-        int[][] high = {{3, 0}, {0, 2}, {-1, 0}, {0, -1}, {Integer.MIN_VALUE, 0}, {0, Integer.MIN_VALUE}};
-        for (int[] cell : high) {
-            check.refuses("high flip off", IndexOutOfBoundsException.class, gardens,
+    }
+
+    void promise6FreeCell() {
+        BentGardens gardens = fourTriples();
+        check.refuses("lift(3, 0)", NO_STATE, gardens, () -> gardens.lift(3, 0));
+        check.refuses("lift(3, 3)", NO_STATE, gardens, () -> gardens.lift(3, 3));
+    }
+
+    void promise6ThePond() {
+        BentGardens gardens = fourTriples();
+        check.refuses("lift(0, 0)", NO_STATE, gardens, () -> gardens.lift(0, 0));
+    }
+
+    void promise6AWall() {
+        BentGardens gardens = fourTriples();
+        gardens.wall(0, 3);
+        check.refuses("lift(0, 3)", NO_STATE, gardens, () -> gardens.lift(0, 3));
+    }
+
+    void promise6TwiceTheSame() {
+        BentGardens gardens = fourTriples();
+        gardens.lift(1, 1);
+        check.refuses("lift(1, 1)", NO_STATE, gardens, () -> gardens.lift(1, 1));
+    }
+
+    void promise6Undoable() {
+        BentGardens gardens = fourTriples();
+        gardens.lift(1, 1);
+        check.due("undo", 4, gardens.undo());
+        check.dueText("triples", "000 201 023 222", Told.triples(gardens));
+    }
+
+    // ---- promise 7: flip
+
+    /** A high block at (1, 0) with the triples 0 and 1. */
+    private static BentGardens high() {
+        BentGardens gardens = Told.gardenOf("o..#/#..#/#..#");
+        gardens.lay(1, 0, 2);
+        gardens.lay(1, 1, 0);
+        return gardens;
+    }
+
+    /** A wide block at (0, 1) with the triples 0 and 1. */
+    private static BentGardens wide() {
+        BentGardens gardens = Told.gardenOf("o##/.../...");
+        gardens.lay(0, 1, 2);
+        gardens.lay(1, 1, 0);
+        return gardens;
+    }
+
+    void promise7ReturnsTheFlipsSoFar() {
+        BentGardens gardens = high();
+        for (int flips = 1; flips <= 9; flips++) {
+            check.due("flip", flips, gardens.flip(1, 0, true));
+            check.due("count(9)", flips, gardens.count(9));
+        }
+    }
+
+    void promise7HighAndBack() {
+        BentGardens gardens = high();
+        check.dueText("before", "oaa#/#ab#/#bb#", Told.cells(gardens));
+        gardens.flip(1, 0, true);
+        check.dueText("flipped", "oaa#/#ba#/#bb#", Told.cells(gardens));
+        check.dueText("flipped", "103 111", Told.triples(gardens));
+        gardens.flip(1, 0, true);
+        check.dueText("flipped back", "102 110", Told.triples(gardens));
+    }
+
+    void promise7WideAndBack() {
+        BentGardens gardens = wide();
+        check.dueText("before", "o##/aab/abb", Told.cells(gardens));
+        gardens.flip(0, 1, false);
+        check.dueText("flipped", "o##/abb/aab", Told.cells(gardens));
+        check.dueText("flipped", "011 113", Told.triples(gardens));
+        gardens.flip(0, 1, false);
+        check.dueText("flipped back", "012 110", Told.triples(gardens));
+    }
+
+    void promise7HighBlockNotInTheGarden() {
+        BentGardens gardens = Told.gardenOf("..../..../..../..../...o");
+        int[][] wrong = {{-1, 0}, {0, -1}, {3, 0}, {0, 3}, {3, 2}, {2, 3}, {4, 0}, {0, 5},
+            {Integer.MAX_VALUE, 0}, {0, Integer.MAX_VALUE}, {Integer.MIN_VALUE, 0}, {0, Integer.MIN_VALUE}};
+        for (int[] cell : wrong) {
+            check.refuses("flip(" + cell[0] + ", " + cell[1] + ", true)", NO_CELL, gardens,
                 () -> gardens.flip(cell[0], cell[1], true));
         }
-        check.due("flip at the edge", 1, gardens.flip(0, 0, false));
-        check.dueText("after a flip", "001 103", Told.triples(gardens));
+        check.refuses("the last block in it", NO_STATE, gardens, () -> gardens.flip(2, 2, true));
     }
 
-    private void fill() {
+    void promise7WideBlockNotInTheGarden() {
+        BentGardens gardens = Told.gardenOf("..../..../..../..../...o");
+        int[][] wrong = {{-1, 0}, {0, -1}, {2, 0}, {0, 4}, {2, 3}, {1, 4}, {4, 0}, {0, 5},
+            {Integer.MAX_VALUE, 0}, {0, Integer.MAX_VALUE}, {Integer.MIN_VALUE, 0}, {0, Integer.MIN_VALUE}};
+        for (int[] cell : wrong) {
+            check.refuses("flip(" + cell[0] + ", " + cell[1] + ", false)", NO_CELL, gardens,
+                () -> gardens.flip(cell[0], cell[1], false));
+        }
+        check.refuses("the last block in it", NO_STATE, gardens, () -> gardens.flip(1, 3, false));
+    }
+
+    void promise7InEachCorner() {
+        BentGardens great = Told.gardenOf(Told.rows(4, "........") + "/o.......");
+        int[][] laid = {{0, 0, 2}, {1, 0, 0}, {6, 0, 2}, {6, 1, 0}, {5, 3, 1}, {6, 3, 3}};
+        for (int[] triple : laid) {
+            great.lay(triple[0], triple[1], triple[2]);
+        }
+        check.due("upper left", 1, great.flip(0, 0, false));
+        check.due("upper right", 2, great.flip(6, 0, true));
+        check.due("lower right", 3, great.flip(5, 3, false));
+        check.dueText("triples", "001 103 603 611 532 630", Told.triples(great));
+    }
+
+    void promise7CannotBeFlipped() {
+        BentGardens gardens = Told.gardenOf("..../..../..../o...");
+        check.refuses("a free block", NO_STATE, gardens, () -> gardens.flip(0, 0, false));
+        gardens.lay(0, 0, 2);
+        check.refuses("one triple", NO_STATE, gardens, () -> gardens.flip(0, 0, false));
+        check.refuses("one triple, high", NO_STATE, gardens, () -> gardens.flip(0, 0, true));
+        gardens.lay(1, 0, 0);
+        check.refuses("two triples, not in this block", NO_STATE, gardens, () -> gardens.flip(0, 0, true));
+        check.refuses("parts of two triples", NO_STATE, gardens, () -> gardens.flip(1, 0, false));
+        check.due("two triples in it", 1, gardens.flip(0, 0, false));
+    }
+
+    void promise7Undoable() {
+        BentGardens gardens = wide();
+        gardens.flip(0, 1, false);
+        check.due("saved states", 4, gardens.count(11));
+        gardens.undo();
+        check.dueText("triples before", "012 110", Told.triples(gardens));
+        check.due("flips before", 0, gardens.count(9));
+    }
+
+    // ---- promise 8: fill
+
+    void promise8LaysTheOnlyWay() {
         BentGardens gardens = new BentGardens();
         check.due("fill", 5, gardens.fill());
-        check.dueText("the only way", "oabb/aacb/dcce/ddee", Told.cells(gardens));
-        check.due("fill saves a state", 1, gardens.count(11));
-        check.due("fill of nothing", 0, gardens.fill());
-        check.due("fill of nothing saves a state", 2, gardens.count(11));
-        gardens.lift(1, 0);
-        check.due("fill of the rest", 1, gardens.fill());
-        check.dueText("the rest comes last", "oeaa/eeba/cbbd/ccdd", Told.cells(gardens));
-        BentGardens walled = Told.gardenOf("o.../.#../..#./....");
-        check.refuses("fill without a way", IllegalStateException.class, walled, () -> walled.fill());
-        walled.garden(3, 3);
-        check.refuses("fill of eight cells", IllegalStateException.class, walled, () -> walled.fill());
-        walled.garden(2, 2);
-        walled.wall(1, 1);
-        check.refuses("fill of two cells", IllegalStateException.class, walled, () -> walled.fill());
+        check.dueText("cells", "oabb/aacb/dcce/ddee", Told.cells(gardens));
+        check.due("free cells", 0, gardens.count(6));
     }
 
-    private void fillLeastTurns() {
-        BentGardens gardens = Told.gardenOf("o##/.../...");
-        check.due("two ways", 2, gardens.ways());
-        check.due("fill", 2, gardens.fill());
-        check.dueText("the turn 1 before the turn 2", "011 113", Told.triples(gardens));
-        BentGardens high = Told.gardenOf("o#../##../##..");
-        high.fill();
-        check.dueText("the turn 2 before the turn 3", "202 210", Told.triples(high));
-        BentGardens greater = new BentGardens();
-        greater.garden(7, 7);
-        greater.fill();
-        check.dueText("7 by 7", "000 201 303 502 510 021 123 322 431 533 042 242 050 250 451 553",
-            Told.triples(greater));
-    }
-
-    private void halve() {
-        String[] two = {"oa/aa", "ao/aa", "aa/oa", "aa/ao"};
-        for (int corner = 0; corner < 4; corner++) {
-            BentGardens gardens = new BentGardens();
-            gardens.garden(2, 2);
-            gardens.pond(corner % 2, corner / 2);
-            check.due("halve 2 by 2", 1, gardens.halve());
-            check.dueText("halve 2 by 2", two[corner], Told.cells(gardens));
-            check.due("halve saves a state", 3, gardens.count(11));
-        }
-        BentGardens gardens = new BentGardens();
-        gardens.pond(1, 2);
-        check.due("halve 4 by 4", 5, gardens.halve());
-        check.dueText("halve 4 by 4", "bbcc/baac/doae/ddee", Told.cells(gardens));
-        gardens.garden(4, 4);
-        gardens.pond(3, 3);
-        gardens.halve();
-        check.dueText("the pond in the lower right", "112 002 203 021 222", Told.triples(gardens));
-        gardens.garden(4, 4);
-        gardens.pond(3, 1);
-        gardens.halve();
-        check.dueText("the pond in the upper right", "111 002 202 021 220", Told.triples(gardens));
-        gardens.garden(8, 8);
-        check.due("halve 8 by 8", 21, gardens.halve());
-        check.dueText("8 by 8", "330 110 000 203 021 220 513 402 603 423 620 151 042 241 061 260 550 440 643 461 660",
+    void promise8OrderInWhichTheyAreFound() {
+        BentGardens gardens = Told.gardenOf(7, 7, 0, 0);
+        check.due("fill", 16, gardens.fill());
+        check.dueText("triples", "000 201 303 502 510 021 123 322 431 533 042 242 050 250 451 553",
             Told.triples(gardens));
     }
 
-    private void halveRefused() {
+    void promise8LaysTheRest() {
         BentGardens gardens = new BentGardens();
-        int[][] sides = {{4, 2}, {2, 4}, {3, 3}, {5, 5}, {6, 6}, {7, 7}, {8, 4}};
-        for (int[] side : sides) {
-            gardens.garden(side[0], side[1]);
-            check.refuses("halve " + side[0] + " by " + side[1], IllegalStateException.class, gardens,
-                () -> gardens.halve());
-        }
-        gardens.garden(4, 4);
-        gardens.wall(3, 3);
-        check.refuses("halve with a wall", IllegalStateException.class, gardens, () -> gardens.halve());
-        gardens.wall(3, 3);
-        gardens.lay(2, 2, 0);
-        check.refuses("halve with a triple", IllegalStateException.class, gardens, () -> gardens.halve());
+        gardens.fill();
+        gardens.lift(1, 0);
         gardens.lift(3, 3);
-        check.due("halve without", 5, gardens.halve());
+        check.due("fill", 2, gardens.fill());
+        check.dueText("the rest comes last", "odaa/ddba/cbbe/ccee", Told.cells(gardens));
+    }
+
+    void promise8NothingIsFree() {
+        BentGardens gardens = Told.gardenOf("o#/##");
+        check.due("fill", 0, gardens.fill());
+        check.due("it is saved, too", 2, gardens.count(11));
+        BentGardens paved = new BentGardens();
+        paved.fill();
+        check.due("fill again", 0, paved.fill());
+        check.dueText("triples", "000 203 110 021 220", Told.triples(paved));
+        check.due("undo", 1, paved.undo());
+    }
+
+    void promise8NoWay() {
+        String[] gardens = {"o../.../...", "o#/#.", "o.../.#../..#./....", "o##../##..#", "...#./#.#../o####", "o./.#"};
+        for (String garden : gardens) {
+            BentGardens told = Told.gardenOf(garden);
+            check.refuses("fill of " + garden, NO_STATE, told, () -> told.fill());
+        }
+    }
+
+    void promise8NoWayAnyMore() {
+        BentGardens gardens = new BentGardens();
+        gardens.lay(1, 0, 0);
+        check.refuses("fill", NO_STATE, gardens, () -> gardens.fill());
+        gardens.lift(2, 0);
+        check.due("fill", 5, gardens.fill());
+    }
+
+    void promise8EachPondOfEightByEight() {
+        for (int place = 0; place < 64; place += 5) {
+            BentGardens gardens = Told.gardenOf(8, 8, place % 8, place / 8);
+            check.due("fill", 21, gardens.fill());
+            check.due("free cells", 0, gardens.count(6));
+            check.due("share", 1, gardens.pavedShare() == 1.0 ? 1 : 0);
+        }
+    }
+
+    void promise8Undoable() {
+        BentGardens gardens = Told.gardenOf("o##/.../...");
+        gardens.fill();
+        check.due("undo", 1, gardens.undo());
+        check.dueText("cells before", "o##/.../...", Told.cells(gardens));
+    }
+
+    // ---- promise 9: halve
+
+    void promise9TwoByTwo() {
+        String[] due = {"oa/aa", "ao/aa", "aa/oa", "aa/ao"};
+        for (int corner = 0; corner < 4; corner++) {
+            BentGardens gardens = Told.gardenOf(2, 2, corner % 2, corner / 2);
+            check.due("halve", 1, gardens.halve());
+            check.dueText("cells", due[corner], Told.cells(gardens));
+        }
+    }
+
+    void promise9FourByFour() {
+        BentGardens gardens = Told.gardenOf(4, 4, 1, 2);
+        check.due("halve", 5, gardens.halve());
+        check.dueText("cells", "bbcc/baac/doae/ddee", Told.cells(gardens));
+    }
+
+    void promise9EightByEight() {
+        BentGardens gardens = Told.gardenOf(8, 8, 0, 0);
+        check.due("halve", 21, gardens.halve());
+        check.dueText("triples",
+            "330 110 000 203 021 220 513 402 603 423 620 151 042 241 061 260 550 440 643 461 660",
+            Told.triples(gardens));
+    }
+
+    void promise9EachPond() {
+        int[] sides = {2, 4, 8};
+        for (int side : sides) {
+            for (int place = 0; place < side * side; place++) {
+                BentGardens gardens = Told.gardenOf(side, side, place % side, place / side);
+                check.due("halve", (side * side - 1) / 3, gardens.halve());
+                check.due("free cells", 0, gardens.count(6));
+                check.due("triples", (side * side - 1) / 3, gardens.count(5));
+                check.due("the pond", 1, gardens.cell(place % side, place / side, 0));
+            }
+        }
+    }
+
+    void promise9CannotBePaved() {
+        BentGardens gardens = new BentGardens();
+        gardens.wall(3, 3);
+        check.refuses("a wall", NO_STATE, gardens, () -> gardens.halve());
+        gardens.garden(6, 6);
+        check.refuses("6 by 6", NO_STATE, gardens, () -> gardens.halve());
+        gardens.garden(2, 2);
+        gardens.halve();
+        check.refuses("a second time", NO_STATE, gardens, () -> gardens.halve());
+    }
+
+    void promise9Undoable() {
+        BentGardens gardens = new BentGardens();
+        gardens.halve();
+        check.due("saved states", 1, gardens.count(11));
+        check.due("undo", 0, gardens.undo());
+        check.dueText("cells before", "o.../..../..../....", Told.cells(gardens));
     }
 }
