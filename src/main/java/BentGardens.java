@@ -850,6 +850,11 @@ public final class BentGardens {
             return ways;
         }
 
+        private int restFrom(int place, int window) {
+            boolean isKnown = place >= 0 && place <= PLACES && window >= 0 && window < WINDOWS;
+            return isKnown ? rest[place][window] : 0;
+        }
+
         /** Lays the first way into a garden, which has one. */
         void paveFirstWay(Garden garden) {
             long free = garden.freeCells();
@@ -858,7 +863,7 @@ public final class BentGardens {
             int window = 0;
             for (int place = 0; place < end; place++) {
                 findTakes(free, place);
-                int turn = holds(free, place) && (window & 1) == 0 ? leastTurn(place, window) : NONE;
+                int turn = leastTurn(place, window);
                 if (turn == NONE) {
                     window = window >> 1;
                 } else {
@@ -868,9 +873,10 @@ public final class BentGardens {
             }
         }
 
+        /** NONE at a place that is not free, or already taken: no triple of the first way begins there. */
         private int leastTurn(int place, int window) {
             for (int turn = 0; turn < TURNS; turn++) {
-                if (isOpen(turn, window) && rest[place + 1][windowAfter(turn, window)] != 0) {
+                if (isOpen(turn, window) && restFrom(place + 1, windowAfter(turn, window)) != 0) {
                     return turn;
                 }
             }
@@ -903,7 +909,7 @@ public final class BentGardens {
             for (int index = 0; index < here.size; index++) {
                 int window = here.windowAt(index);
                 if ((window & 1) == 0) {
-                    ways += here.waysTo(window) * rest[place + 1][window >> 1];
+                    ways += here.waysTo(window) * restFrom(place + 1, window >> 1);
                 }
             }
             return ways;

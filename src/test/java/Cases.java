@@ -20,6 +20,7 @@ abstract class Cases {
         for (Method method : cases) {
             check.begin(method.getName());
             runCase(method);
+            System.out.println("  ran " + method.getName());
         }
         check.begin(getClass().getName());
         check.due("some cases", 1, cases.isEmpty() ? 0 : 1);

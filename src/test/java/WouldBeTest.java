@@ -365,7 +365,7 @@ public final class WouldBeTest extends Cases {
         check.dueShare("pavedShare", 1.0, gardens.pavedShare());
     }
 
-    void promise27Without() {
+    void promise27OneWithoutPavedAndFreeCells() {
         check.dueShare("pavedShare", 1.0, Told.gardenOf("#o/##").pavedShare());
     }
 
