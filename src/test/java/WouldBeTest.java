@@ -280,6 +280,12 @@ public final class WouldBeTest extends Cases {
         bestPond("##o/###", 2);
     }
 
+    void promise26LastCell() {
+        bestPond(Told.rows(7, "########") + "/#######o", 77);
+        bestPond("o.######/.#######/" + Told.rows(5, "########") + "/#######.", 77);
+        bestPond("o.#/.##/##.", 22);
+    }
+
     void promise26NoneIfNoWayWithAny() {
         bestPond("##o/#.#", -1);
         bestPond("o.../..../....", -1);
