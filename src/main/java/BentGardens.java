@@ -822,12 +822,17 @@ public final class BentGardens {
 
         private void countRest(long free) {
             int end = endOf(free);
-            Arrays.fill(rest[end], 0);
-            rest[end][0] = 1;
+            int[] restAtEnd = restOf(end);
+            Arrays.fill(restAtEnd, 0);
+            restAtEnd[0] = 1;
             for (int place = end - 1; place >= 0; place--) {
                 findTakes(free, place);
-                countPlace(holds(free, place), rest[place], rest[place + 1]);
+                countPlace(holds(free, place), restOf(place), restOf(place + 1));
             }
+        }
+
+        private int[] restOf(int place) {
+            return rest[Math.max(0, Math.min(place, PLACES))];
         }
 
         private void countPlace(boolean isFree, int[] restHere, int[] restNext) {
@@ -851,8 +856,7 @@ public final class BentGardens {
         }
 
         private int restFrom(int place, int window) {
-            boolean isKnown = place >= 0 && place <= PLACES && window >= 0 && window < WINDOWS;
-            return isKnown ? rest[place][window] : 0;
+            return window >= 0 && window < WINDOWS ? restOf(place)[window] : 0;
         }
 
         /** Lays the first way into a garden, which has one. */
